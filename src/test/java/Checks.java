@@ -1,0 +1,76 @@
+import java.util.Objects;
+
+/** Counts the answers that are not as due, prints them, and ends the test with exit code 1 if there was one. */
+final class Checks {
+    private int wrong;
+
+    void due(String what, Object got, Object want) {
+        if (!Objects.equals(got, want)) {
+            wrong++;
+            System.out.println(what + " answered " + got + ", due is " + want);
+        }
+    }
+
+    /** A call that throws must throw exactly this class, and must leave the whole state as it was. */
+    void refused(String what, LatheCopies lathe, Class<? extends RuntimeException> want, Runnable call) {
+        long before = lathe.digest();
+        due(what + " throws", thrownBy(call), want);
+        due(what + " changes nothing: digest", lathe.digest(), before);
+    }
+
+    static Class<?> thrownBy(Runnable call) {
+        try {
+            call.run();
+            return null;
+        } catch (RuntimeException e) {
+            return e.getClass();
+        }
+    }
+
+    void end() {
+        if (wrong != 0) {
+            System.out.println(wrong + " answers are not as due");
+            System.exit(1);
+        }
+    }
+
+    static void type(LatheCopies lathe, String text) {
+        lathe.clearBuffer();
+        for (char sign : text.toCharArray()) {
+            lathe.append(sign);
+        }
+    }
+
+    static void load(LatheCopies lathe, int master, String text) {
+        type(lathe, text);
+        lathe.loadMaster(master);
+    }
+
+    /** A lathe with one blank, which is mounted. */
+    static LatheCopies mounted(int wood, int diameter) {
+        LatheCopies lathe = new LatheCopies();
+        lathe.addBlank(wood, diameter);
+        lathe.mount(0);
+        return lathe;
+    }
+
+    static String master(LatheCopies lathe, int master) {
+        StringBuilder told = new StringBuilder();
+        for (int step = 0; step < 16; step++) {
+            told.append(step == 0 ? "" : " ").append(lathe.masterAt(master, step));
+        }
+        return told.toString();
+    }
+
+    static String piece(LatheCopies lathe, int piece) {
+        StringBuilder told = new StringBuilder();
+        for (int step = 0; step < 16; step++) {
+            told.append(step == 0 ? "" : " ").append(lathe.diameterAt(piece, step));
+        }
+        return told.toString();
+    }
+
+    static String times(String number, int times) {
+        return (number + " ").repeat(times).trim();
+    }
+}
