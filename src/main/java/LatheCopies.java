@@ -1173,10 +1173,9 @@ public final class LatheCopies {
 
     /** The buffer, and its reading as a master: character by character, as long as a master can begin so. */
     private static final class MasterText {
-        private static final int PART_BEGINS = 0;
-        private static final int IN_DIAMETER = 1;
-        private static final int TIMES_BEGIN = 2;
-        private static final int IN_TIMES = 3;
+        private static final int IN_DIAMETER = 0;
+        private static final int TIMES_BEGIN = 1;
+        private static final int IN_TIMES = 2;
 
         private final Row codes = new Row(MOST_CODES);
         private final Row told = new Row(STEPS);
@@ -1217,8 +1216,9 @@ public final class LatheCopies {
             return stepsTold == STEPS;
         }
 
+        /** A diameter of 0 tells that none of its digits has come yet. */
         private void beginPart() {
-            place = PART_BEGINS;
+            place = IN_DIAMETER;
             diameter = 0;
             times = 1;
         }
@@ -1234,13 +1234,10 @@ public final class LatheCopies {
         }
 
         private boolean takesDigit(int digit) {
-            if (place == PART_BEGINS || place == IN_DIAMETER) {
+            if (place == IN_DIAMETER) {
                 return takesDiameter(diameter * 10 + digit);
             }
-            if (place == TIMES_BEGIN) {
-                return takesNumber(digit);
-            }
-            return takesNumber(times * 10 + digit);
+            return takesNumber(place == IN_TIMES ? times * 10 + digit : digit);
         }
 
         private boolean takesDiameter(int number) {
@@ -1248,7 +1245,6 @@ public final class LatheCopies {
                 return false;
             }
             diameter = number;
-            place = IN_DIAMETER;
             return true;
         }
 

@@ -7,6 +7,7 @@ public final class GaugingTest {
     public static void main(String[] args) {
         GaugingTest test = new GaugingTest();
         test.againstTheMaster();
+        test.worstAtTheEnds();
         test.faults();
         test.mostLike();
         test.bestCopy();
@@ -35,6 +36,26 @@ public final class GaugingTest {
         checks.due("tooThick of one alike", lathe.tooThick(0), 0);
         checks.due("tooThin of one alike", lathe.tooThin(0), 0);
         checks.due("isGood of one alike", lathe.isGood(0), true);
+    }
+
+    /** The worst step is the first or the last one; what is behind them in the rack and the masters does not count. */
+    private void worstAtTheEnds() {
+        LatheCopies lathe = new LatheCopies();
+        lathe.addBlank(0, 40);
+        lathe.addBlank(0, 120);
+        Checks.load(lathe, 0, "33,40x15");
+        checks.due("tooThick at the first step", lathe.tooThick(0), 7);
+        Checks.load(lathe, 0, "40x15,34");
+        checks.due("tooThick at the last step", lathe.tooThick(0), 6);
+        Checks.load(lathe, 0, "47,40x15");
+        checks.due("tooThin at the first step", lathe.tooThin(0), 7);
+        Checks.load(lathe, 0, "40x15,46");
+        Checks.load(lathe, 1, "99x16");
+        checks.due("tooThin at the last step", lathe.tooThin(0), 6);
+        checks.due("faultsOf at the last step", lathe.faultsOf(0), 1);
+        Checks.load(lathe, 0, "40x16");
+        checks.due("tooThick next to another piece", lathe.tooThick(0), 0);
+        checks.due("tooThin next to another master", lathe.tooThin(0), 0);
     }
 
     private void faults() {
@@ -72,6 +93,12 @@ public final class GaugingTest {
         checks.due("mostLike of three the lowest", lathe.mostLike(0), 0);
         lathe.addBlank(1, 60);
         checks.due("mostLike of another piece", lathe.mostLike(1), 0);
+        LatheCopies thick = new LatheCopies();
+        thick.addBlank(0, 20);
+        for (int master = 0; master < 3; master++) {
+            Checks.load(thick, master, "99x15," + (99 - master));
+        }
+        checks.due("mostLike of one much thinner than all", thick.mostLike(0), 2);
     }
 
     private void bestCopy() {
@@ -102,6 +129,10 @@ public final class GaugingTest {
         checks.due("bestCopy", lathe.bestCopy(), 1);
         lathe.changeTolerance(3);
         checks.due("bestCopy with another tolerance", lathe.bestCopy(), 0);
+        lathe.addBlank(0, 30);
+        checks.due("bestCopy is the last", lathe.bestCopy(), 2);
+        lathe.burn(2);
+        checks.due("bestCopy without the burnt one", lathe.bestCopy(), 0);
         lathe.burn(0);
         checks.due("bestCopy of the one that is left", lathe.bestCopy(), 0);
         lathe.burn(0);

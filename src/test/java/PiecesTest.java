@@ -165,6 +165,9 @@ public final class PiecesTest {
         checks.due("passes on it", lathe.passesOn(1), 3);
         lathe.takeOut();
         checks.due("passes stay", lathe.passesOn(1), 3);
+        lathe.burn(1);
+        lathe.addBlank(0, 60);
+        checks.due("passes on a new piece of that number", lathe.passesOn(1), 0);
         lathe.mount(0);
         lathe.sand(1);
         checks.due("sanding is no pass", lathe.passesOn(0), 0);

@@ -10,7 +10,9 @@ public final class ProspectsTest {
         test.isFinished();
         test.ifPassed();
         test.passesToFinish();
+        test.worstAtTheEnds();
         test.passesWhenJammedOrBlunt();
+        test.sharpnessOfOne();
         test.passesUntilBlunt();
         test.chipsOf();
         test.meanDiameter();
@@ -96,6 +98,46 @@ public final class ProspectsTest {
         lathe.changeOffset(5);
         checks.due("passesBySteps with the offset", lathe.passesBySteps(), 110);
         checks.due("passesByDivision with the offset", lathe.passesByDivision(), 110);
+    }
+
+    /** The one step that is above its target is the first or the last one; a thicker piece is next in the rack. */
+    private void worstAtTheEnds() {
+        for (String master : new String[] {"30,50x15", "50x15,30"}) {
+            LatheCopies lathe = Checks.mounted(0, 50);
+            lathe.addBlank(0, 120);
+            lathe.fitFollower(0);
+            Checks.load(lathe, 0, master);
+            lathe.changeDepth(7);
+            checks.due("isFinished with " + master, lathe.isFinished(), false);
+            checks.due("passesBySteps with " + master, lathe.passesBySteps(), 3);
+            checks.due("passesByDivision with " + master, lathe.passesByDivision(), 3);
+            checks.due("chipsOf with " + master, lathe.chipsOf(0), 20);
+            checks.due("ifPassed with " + master, lathe.ifPassed(), 7);
+            checks.due("sand with " + master, lathe.sand(2), 2);
+            checks.due("passUpTo with " + master, lathe.passUpTo(30), 3);
+            checks.due("isFinished then with " + master, lathe.isFinished(), true);
+            checks.due("passesBySteps then with " + master, lathe.passesBySteps(), 0);
+            checks.due("passesByDivision then with " + master, lathe.passesByDivision(), 0);
+            checks.due("ifPassed then with " + master, lathe.ifPassed(), 0);
+            checks.due("sand then with " + master, lathe.sand(3), 0);
+            checks.due("the other piece with " + master, Checks.piece(lathe, 1), Checks.times("120", 16));
+        }
+    }
+
+    private void sharpnessOfOne() {
+        LatheCopies lathe = Checks.mounted(0, 20);
+        lathe.changeSpeed(3);
+        for (int pass = 0; pass < 33; pass++) {
+            lathe.pass();
+        }
+        checks.due("sharpness", lathe.sharpness(), 1);
+        checks.due("cutDepth", lathe.cutDepth(), 2);
+        checks.due("passesUntilBlunt", lathe.passesUntilBlunt(), 1);
+        checks.due("passesBySteps", lathe.passesBySteps(), 0);
+        checks.due("ifPassed", lathe.ifPassed(), 0);
+        checks.due("pass", lathe.pass(), 0);
+        checks.due("sharpness after it", lathe.sharpness(), 0);
+        checks.refused("pass of a blunt one", lathe, STATE, lathe::pass);
     }
 
     private void passesWhenJammedOrBlunt() {

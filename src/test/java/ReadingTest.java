@@ -17,6 +17,7 @@ public final class ReadingTest {
         test.readings();
         test.targets();
         test.readingsOfEqualSteps();
+        test.lostGroovesAtTheEnds();
         test.noSuchStep();
         test.slimmestMaster();
         test.checks.end();
@@ -72,6 +73,15 @@ public final class ReadingTest {
             checks.due("readingByQueue " + step, lathe.readingByQueue(step), due[step]);
             checks.due("readingByLooking " + step, lathe.readingByLooking(step), due[step]);
         }
+    }
+
+    private void lostGroovesAtTheEnds() {
+        LatheCopies lathe = new LatheCopies();
+        Checks.load(lathe, 1, "5x16");
+        lathe.carve(0, 0, 29);
+        checks.due("lostGrooves at the first step, none behind the last", lathe.lostGrooves(), 1);
+        lathe.carve(0, 15, 29);
+        checks.due("lostGrooves at both ends", lathe.lostGrooves(), 2);
     }
 
     private void noSuchStep() {

@@ -63,6 +63,8 @@ public final class TextTest {
         }
         told("995x16", 2, NO_MASTER);
         told("5x16", 4, 5);
+        told("98,97x15", 8, 98);
+        told("97x15,98", 8, 98);
         told("99x16", 5, 99);
     }
 
