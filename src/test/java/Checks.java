@@ -3,12 +3,22 @@ import java.util.Objects;
 /** Counts the answers that are not as due, prints them, and ends the test with exit code 1 if there was one. */
 final class Checks {
     private int wrong;
+    private String sentence = "";
+
+    /** The sentence of the document that the answers from here on belong to; it is printed with those not as due. */
+    void sentence(String told) {
+        sentence = "\"" + told + "\": ";
+    }
 
     void due(String what, Object got, Object want) {
         if (!Objects.equals(got, want)) {
             wrong++;
-            System.out.println(what + " answered " + got + ", due is " + want);
+            System.out.println(sentence + what + " answered " + got + ", due is " + want);
         }
+    }
+
+    void passes(String what, Runnable call) {
+        due(what + " throws", thrownBy(call), null);
     }
 
     /** A call that throws must throw exactly this class, and must leave the whole state as it was. */
@@ -51,6 +61,24 @@ final class Checks {
         LatheCopies lathe = new LatheCopies();
         lathe.addBlank(wood, diameter);
         lathe.mount(0);
+        return lathe;
+    }
+
+    /** A new follower, a piece of pine of 60 above the master 0, speed 1, and a cutter of this sharpness. */
+    static LatheCopies sharp(int sharpness) {
+        LatheCopies lathe = mounted(0, 60);
+        load(lathe, 2, "99x16");
+        lathe.chooseMaster(2);
+        for (int fast = (100 - sharpness) / 5; fast > 0; fast--) {
+            lathe.changeSpeed(5);
+            lathe.pass();
+        }
+        lathe.changeSpeed(1);
+        for (int slow = (100 - sharpness) % 5; slow > 0; slow--) {
+            lathe.pass();
+        }
+        lathe.chooseMaster(0);
+        lathe.fitFollower(0);
         return lathe;
     }
 

@@ -9,11 +9,16 @@ import java.util.regex.Pattern;
 public final class LanguageTest {
     private static final int MOST_LINES = 60;
     private static final String[] FORBIDDEN = {
-        "\\bpackage\\b", "\\bimport\\b", "\\bcatch\\b", "\\btry\\b", "\\bfinally\\b", "\\bsynchronized\\b",
-        "\\bassert\\b", "\\bstatic\\s*\\{", "->", "::", "\\bSystem\\.(?!arraycopy)", "\\bThread\\b", "\\bDouble\\b",
-        "\\bFloat\\b", "Exact\\b", "\\bprotected\\b", "\\bequals\\b", "\\bhashCode\\b", "\\btoString\\b", "\\bnative\\b",
-        "\\bgetClass\\b", "\"\\s*\\+", "\\+\\s*\"", "[^\\x00-\\x7f]",
+        "\\bpackage\\b", "\\bfinally\\b", "\\bsynchronized\\b", "\\bassert\\b", "\\bstatic\\s*\\{", "::",
+        "\\bimport (?!java\\.util\\.(ArrayList|List|Iterator|Arrays|NoSuchElementException);)",
+        "\\bcatch \\((final )?(Array|NullPointer|ClassCast|NegativeArray|Exception|Throwable|Error)",
+        "(?<!\\bdefault )(?<!\\bcase [\\w, ']{1,60} )->", "\\bSystem\\.(?!arraycopy)", "\\bThread\\b", "Exact\\b",
+        "\\bprotected\\b", "\\bhashCode\\b", "\\bnative\\b", "\\bgetClass\\b", "\"\\s*\\+(?!=)", "\\+\\s*\"",
+        "[^\\x00-\\x7f]",
     };
+    private static final List<String> THROWN = List.of("IllegalStateException", "IllegalArgumentException",
+            "IndexOutOfBoundsException", "ArithmeticException", "UnsupportedOperationException",
+            "NoSuchElementException", "RuntimeException");
 
     private final Checks checks = new Checks();
 
@@ -32,9 +37,7 @@ public final class LanguageTest {
         }
         Matcher thrown = Pattern.compile("throw new (\\w+)\\(").matcher(code);
         while (thrown.find()) {
-            boolean due = List.of("IndexOutOfBoundsException", "IllegalArgumentException", "IllegalStateException")
-                    .contains(thrown.group(1));
-            checks.due("thrown " + thrown.group(1), due, true);
+            checks.due("thrown " + thrown.group(1), THROWN.contains(thrown.group(1)), true);
         }
         Matcher classes = Pattern.compile("\\b(class|interface|enum|record) \\w+").matcher(code);
         checks.due("at most 12 classes", classes.results().count() <= 12, true);
@@ -47,7 +50,7 @@ public final class LanguageTest {
             Matcher matcher = first.matcher(lines.get(begin));
             if (matcher.matches()) {
                 int end = begin;
-                while (!lines.get(end).equals(matcher.group(1) + "}")) {
+                while (end < lines.size() && !lines.get(end).equals(matcher.group(1) + "}")) {
                     end++;
                 }
                 checks.due("at most 60 lines: " + lines.get(begin), end - begin < MOST_LINES, true);
