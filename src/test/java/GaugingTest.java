@@ -12,6 +12,7 @@ public final class GaugingTest {
         test.mostLike();
         test.bestCopy();
         test.bestCopyBySums();
+        test.bestCopyAgainstEachMaster();
         test.checks.end();
     }
 
@@ -137,5 +138,23 @@ public final class GaugingTest {
         checks.due("bestCopy of the one that is left", lathe.bestCopy(), 0);
         lathe.burn(0);
         checks.refused("bestCopy of none any more", lathe, STATE, lathe::bestCopy);
+    }
+
+    /** Each piece has sixteen faults against each master, so that the sums alone tell, whatever the tip is like. */
+    private void bestCopyAgainstEachMaster() {
+        LatheCopies lathe = new LatheCopies();
+        for (int master = 0; master < 3; master++) {
+            Checks.load(lathe, master, (40 + 20 * master) + "x16");
+        }
+        for (int diameter : new int[] {85, 66, 47}) {
+            lathe.addBlank(0, diameter);
+        }
+        for (int radius = 0; radius <= 3; radius++) {
+            lathe.fitFollower(radius);
+            for (int master = 0; master < 3; master++) {
+                lathe.chooseMaster(master);
+                checks.due("bestCopy against master " + master, lathe.bestCopy(), 2 - master);
+            }
+        }
     }
 }

@@ -1,13 +1,19 @@
 import java.io.IOException;
+import java.lang.reflect.Field;
+import java.lang.reflect.Method;
+import java.lang.reflect.Modifier;
 import java.nio.file.Files;
 import java.nio.file.Path;
 import java.util.List;
+import java.util.Set;
 import java.util.regex.Matcher;
 import java.util.regex.Pattern;
 
-/** What of LANGUAGE.md can be seen from the text of the class; its argument is the path of the class. */
+/** What of LANGUAGE.md can be seen from the text of the class, whose path is the argument, and from its members. */
 public final class LanguageTest {
     private static final int MOST_LINES = 60;
+    private static final int MOST_FIELDS = 20;
+    private static final int MOST_PARAMETERS = 7;
     private static final String[] FORBIDDEN = {
         "\\bpackage\\b", "\\bfinally\\b", "\\bsynchronized\\b", "\\bassert\\b", "\\bstatic\\s*\\{", "::",
         "\\bimport (?!java\\.util\\.(ArrayList|List|Iterator|Arrays|NoSuchElementException);)",
@@ -19,6 +25,8 @@ public final class LanguageTest {
     private static final List<String> THROWN = List.of("IllegalStateException", "IllegalArgumentException",
             "IndexOutOfBoundsException", "ArithmeticException", "UnsupportedOperationException",
             "NoSuchElementException", "RuntimeException");
+    private static final Set<Class<?>> CONSTANTS = Set.of(int.class, long.class, boolean.class, char.class, String.class,
+            int[].class, long[].class, char[].class, byte[].class);
 
     private final Checks checks = new Checks();
 
@@ -27,6 +35,13 @@ public final class LanguageTest {
         Path path = Path.of(args.length > 0 ? args[0] : "src/main/java/LatheCopies.java");
         test.forbidden(Files.readString(path).replaceAll("(?s)/\\*.*?\\*/|//[^\n]*", ""));
         test.methods(Files.readAllLines(path));
+        test.members(LatheCopies.class);
+        for (Class<?> inside : LatheCopies.class.getDeclaredClasses()) {
+            int modifiers = inside.getModifiers();
+            test.checks.due(inside + " is static", Modifier.isStatic(modifiers), true);
+            test.checks.due(inside + " is seen outside", (modifiers & (Modifier.PUBLIC | Modifier.PROTECTED)) != 0, false);
+            test.members(inside);
+        }
         test.checks.end();
     }
 
@@ -54,8 +69,23 @@ public final class LanguageTest {
                     end++;
                 }
                 checks.due("at most 60 lines: " + lines.get(begin), end - begin < MOST_LINES, true);
-                checks.due("at most 7 parameters: " + lines.get(begin), lines.get(begin).split(",").length <= 7, true);
             }
+        }
+    }
+
+    private void members(Class<?> owner) {
+        int fields = 0;
+        for (Field field : owner.getDeclaredFields()) {
+            if (Modifier.isStatic(field.getModifiers())) {
+                checks.due(field + " is final", Modifier.isFinal(field.getModifiers()), true);
+                checks.due(field + " is a constant", CONSTANTS.contains(field.getType()), true);
+            } else {
+                fields++;
+            }
+        }
+        checks.due("at most 20 fields in " + owner, fields <= MOST_FIELDS, true);
+        for (Method method : owner.getDeclaredMethods()) {
+            checks.due("at most 7 parameters: " + method, method.getParameterCount() <= MOST_PARAMETERS, true);
         }
     }
 }
