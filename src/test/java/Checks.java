@@ -82,6 +82,18 @@ final class Checks {
         return lathe;
     }
 
+    /** Sands a piece to a shape, which the master 2, under a new follower, has then; no pass is done. */
+    static void shape(LatheCopies lathe, int piece, String text) {
+        load(lathe, 2, text);
+        lathe.chooseMaster(2);
+        lathe.fitFollower(0);
+        lathe.mount(piece);
+        for (int more = 0; more < 39 && !lathe.isFinished(); more++) {
+            lathe.sand(3);
+        }
+        lathe.takeOut();
+    }
+
     static String master(LatheCopies lathe, int master) {
         StringBuilder told = new StringBuilder();
         for (int step = 0; step < 16; step++) {

@@ -13,6 +13,7 @@ public final class FollowerCutterTest {
         test.sharpen();
         test.cutDepth();
         test.changeDepth();
+        test.changeDepthOfABluntOne();
         test.changeSpeed();
         test.changeTolerance();
         test.sweep();
@@ -123,6 +124,17 @@ public final class FollowerCutterTest {
         checks.due("savedStates", lathe.savedStates(), 3);
         for (int depth : new int[] {0, 10, -1, Integer.MIN_VALUE, Integer.MAX_VALUE}) {
             checks.refused("changeDepth " + depth, lathe, ARGUMENT, () -> lathe.changeDepth(depth));
+        }
+    }
+
+    /** The depth that is set stays, whatever the cutter cuts to. */
+    private void changeDepthOfABluntOne() {
+        for (int sharpness : new int[] {49, 1, 0}) {
+            LatheCopies lathe = Checks.sharp(sharpness);
+            checks.due("changeDepth 9 with " + sharpness, lathe.changeDepth(9), 3);
+            checks.due("depth with " + sharpness, lathe.depth(), 9);
+            checks.due("cutDepth with " + sharpness, lathe.cutDepth(), sharpness == 0 ? 0 : 5);
+            checks.due("changeDepth 4 with " + sharpness, lathe.changeDepth(4), 9);
         }
     }
 

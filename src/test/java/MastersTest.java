@@ -11,9 +11,11 @@ public final class MastersTest {
     public static void main(String[] args) {
         MastersTest test = new MastersTest();
         test.carve();
+        test.carveOfEach();
         test.carveRefused();
         test.copyMaster();
         test.mirrorMaster();
+        test.mirrorOfEach();
         test.chooseMaster();
         test.masterAtRefused();
         test.checks.end();
@@ -30,6 +32,22 @@ public final class MastersTest {
         checks.due("master 0", Checks.master(lathe, 0), "5 " + Checks.times("30", 15));
         checks.due("master 1", Checks.master(lathe, 1), Checks.times("30", 7) + " 50 " + Checks.times("30", 8));
         checks.due("master 2", Checks.master(lathe, 2), Checks.times("30", 15) + " 98");
+    }
+
+    /** Each step of each master has a diameter of its own. */
+    private void carveOfEach() {
+        LatheCopies lathe = new LatheCopies();
+        for (int master = 0; master < 3; master++) {
+            for (int step = 0; step < 16; step++) {
+                lathe.carve(master, step, 10 + 20 * master + step);
+            }
+        }
+        for (int master = 0; master < 3; master++) {
+            for (int step = 0; step < 16; step++) {
+                int before = 10 + 20 * master + step;
+                checks.due("carve " + master + ", " + step, lathe.carve(master, step, 99), before);
+            }
+        }
     }
 
     private void carveRefused() {
@@ -89,6 +107,19 @@ public final class MastersTest {
         checks.due("savedStates", another.savedStates(), 1);
         for (int master : NO_MASTERS) {
             checks.refused("mirrorMaster " + master, another, INDEX, () -> another.mirrorMaster(master));
+        }
+    }
+
+    /** Another one of them is alike from both ends each time. */
+    private void mirrorOfEach() {
+        for (int even = 0; even < 3; even++) {
+            LatheCopies lathe = new LatheCopies();
+            for (int master = 0; master < 3; master++) {
+                Checks.load(lathe, master, master == even ? "40,30x14,40" : ALONG);
+            }
+            for (int master = 0; master < 3; master++) {
+                checks.due("mirrorMaster " + master, lathe.mirrorMaster(master), master == even ? 0 : 16);
+            }
         }
     }
 

@@ -8,6 +8,7 @@ import java.util.function.Consumer;
  */
 public final class RoomTest {
     private static final int CALLS = 512;
+    private static final int CALLS_BEFORE = 8;
     private static final long MOST_BYTES = 100_000;
 
     private final Checks checks = new Checks();
@@ -15,29 +16,29 @@ public final class RoomTest {
 
     public static void main(String[] args) {
         RoomTest test = new RoomTest();
-        test.run("digest", LatheCopies::digest);
-        test.run("undoable calls", lathe -> lathe.carve(0, 0, 50));
-        test.run("snapshots", lathe -> {
+        test.run("digest", 1, LatheCopies::digest);
+        test.run("undoable calls", 1, lathe -> lathe.carve(0, 0, 50));
+        test.run("snapshots", 3, lathe -> {
             lathe.keep(lathe.savedStates() % 2);
             lathe.goBack(0);
         });
-        test.run("passes", lathe -> {
+        test.run("passes", 3, lathe -> {
             lathe.sweep();
             lathe.sharpen();
             lathe.passUpTo(30);
         });
-        test.run("what would be", lathe -> {
+        test.run("what would be", 2, lathe -> {
             lathe.passesBySteps();
             lathe.ifPassed();
         });
-        test.run("readings", lathe -> lathe.readingByQueue(15));
-        test.run("gauging", LatheCopies::bestCopy);
-        test.run("texts", lathe -> {
+        test.run("readings", 1, lathe -> lathe.readingByQueue(15));
+        test.run("gauging", 1, LatheCopies::bestCopy);
+        test.run("texts", 3, lathe -> {
             lathe.append('5');
             lathe.firstError();
             lathe.clearBuffer();
         });
-        test.run("blanks", lathe -> {
+        test.run("blanks", 2, lathe -> {
             lathe.burn(1);
             lathe.addBlank(2, 120);
         });
@@ -45,14 +46,14 @@ public final class RoomTest {
     }
 
     /** The first runs load what the machine needs, and count for nothing. */
-    private void run(String what, Consumer<LatheCopies> calls) {
-        bytes(calls);
-        bytes(calls);
-        long bytes = bytes(calls);
+    private void run(String what, int inARound, Consumer<LatheCopies> calls) {
+        bytes(inARound, calls);
+        bytes(inARound, calls);
+        long bytes = bytes(inARound, calls);
         checks.due(what + " take at most " + MOST_BYTES + " bytes, not " + bytes, bytes <= MOST_BYTES, true);
     }
 
-    private long bytes(Consumer<LatheCopies> calls) {
+    private long bytes(int inARound, Consumer<LatheCopies> calls) {
         long thread = Thread.currentThread().getId();
         long before = threads.getThreadAllocatedBytes(thread);
         LatheCopies lathe = new LatheCopies();
@@ -62,7 +63,7 @@ public final class RoomTest {
         lathe.mount(0);
         lathe.keep(0);
         lathe.keep(1);
-        for (int round = 0; round < (CALLS - 8) / 3; round++) {
+        for (int round = 0; round < (CALLS - CALLS_BEFORE) / inARound; round++) {
             calls.accept(lathe);
         }
         return threads.getThreadAllocatedBytes(thread) - before;

@@ -16,6 +16,7 @@ public final class UndoTest {
         test.undoOfGoBack();
         test.snapshotHasTheFollowersPasses();
         test.snapshotsAreOfTheirOwn();
+        test.wornAndBlunt();
         test.refused();
         test.notUndoable();
         test.checks.end();
@@ -195,6 +196,47 @@ public final class UndoTest {
             lathe.changeTolerance(lathe.tolerance());
         }
         return lathe.digest();
+    }
+
+    /** What is worn, blunt, cut and full of chips is so again behind undo and goBack. */
+    private void wornAndBlunt() {
+        LatheCopies lathe = Checks.sharp(9);
+        lathe.changeDepth(7);
+        lathe.changeTolerance(11);
+        lathe.fitFollower(2);
+        lathe.chooseMaster(2);
+        for (int pass = 1; pass <= 9; pass++) {
+            lathe.pass();
+        }
+        lathe.sharpen();
+        for (int pass = 1; pass <= 60; pass++) {
+            lathe.pass();
+        }
+        lathe.chooseMaster(0);
+        checks.due("pass", lathe.pass(), 64);
+        checks.due("wear", lathe.wear(), 17);
+        checks.due("sharpness", lathe.sharpness(), 39);
+        checks.due("depth", lathe.depth(), 7);
+        String told = told(lathe);
+        lathe.keep(1);
+        lathe.fitFollower(0);
+        lathe.undo();
+        checks.due("the state behind undo", told(lathe), told);
+        for (int more = 1; more <= 3; more++) {
+            lathe.sharpen();
+            lathe.pass();
+            lathe.sweep();
+            lathe.changeDepth(more);
+            lathe.goBack(1);
+            checks.due("the state behind goBack " + more, told(lathe), told);
+        }
+    }
+
+    private static String told(LatheCopies lathe) {
+        return lathe.radius() + " " + lathe.wear() + " " + lathe.sharpness() + " " + lathe.depth() + " "
+                + lathe.cutDepth() + " " + lathe.speed() + " " + lathe.tolerance() + " " + lathe.chips() + " "
+                + lathe.isJammed() + " " + lathe.passes() + " " + lathe.woodTaken() + " " + lathe.sharpenings() + " "
+                + lathe.passesOn(0) + " " + Checks.piece(lathe, 0);
     }
 
     private void refused() {
